@@ -1,0 +1,168 @@
+import java.util.ArrayList;
+import java.util.List;
+import java.util.Random;
+
+/** Random runs of at most 512 calls, the class against the plain model, with all answers of all promises. */
+public final class ModelTest {
+    private static final int RUNS = 4000;
+    private static final int CALLS = 512;
+
+    private final Random random;
+    private final LunchMarks x = new LunchMarks();
+    private final Model model = new Model();
+    private final List<String> calls = new ArrayList<>();
+    private final int seed;
+    private int stations;
+    private int trains;
+    private int boxes;
+    private int carriers;
+    private int horizon;
+    private boolean line;
+
+    private ModelTest(int seed) {
+        this.seed = seed;
+        random = new Random(seed);
+    }
+
+    public static void main(String[] args) {
+        for (int seed = 0; seed < RUNS && Check.isClean(); seed++) {
+            new ModelTest(seed).run();
+        }
+        Check.end();
+    }
+
+    private void run() {
+        horizon = random.nextInt(8) == 0 ? 1439 : 120 + random.nextInt(300);
+        line = random.nextInt(3) > 0;
+        stations = 2 + random.nextInt(random.nextInt(12) == 0 ? 9 : 4);
+        for (int i = 0; i < stations; i++) {
+            int sorting = random.nextInt(3) == 0 ? 0 : random.nextInt(line ? 6 : 12);
+            ask("station " + sorting, () -> model.station(sorting), () -> x.station(sorting));
+        }
+        int first = 3 + random.nextInt(line ? 12 : 6);
+        for (int i = 0; i < first; i++) {
+            newTrain();
+        }
+        int begun = 2 + random.nextInt(14);
+        for (int i = 0; i < begun; i++) {
+            newBox();
+        }
+        while (calls.size() < CALLS && Check.isClean()) {
+            change();
+            look();
+        }
+    }
+
+    private void ask(String call, Check.Call want, Check.Call got) {
+        if (calls.size() >= CALLS || !Check.isClean()) {
+            return;
+        }
+        calls.add(call);
+        Check.due("seed " + seed + ", call " + calls.size() + " " + call, Check.told(want), got);
+        if (!Check.isClean()) {
+            System.out.println(String.join("; ", calls));
+        }
+    }
+
+    private void newTrain() {
+        int room = random.nextInt(4) == 0 ? 1 + random.nextInt(40) : 1 + random.nextInt(3);
+        ask("train " + room, () -> model.train(room), () -> x.train(room));
+        trains = model.count(1);
+        int minute = model.count(3) - 5 + random.nextInt(horizon);
+        int station = random.nextInt(stations);
+        int stops = random.nextInt(10) == 0 ? 10 : 2 + random.nextInt(3);
+        for (int i = 0; i < stops; i++) {
+            newStop(trains - 1, station, minute);
+            minute += 1 + random.nextInt(random.nextBoolean() ? 8 : 30);
+            station = line ? neighbour(station) : random.nextInt(stations);
+        }
+    }
+
+    private int neighbour(int station) {
+        int next = random.nextBoolean() ? station + 1 : station - 1;
+        return next < 0 ? 1 : next >= stations ? stations - 2 : next;
+    }
+
+    private void newStop(int train, int station, int minute) {
+        ask("stop " + train + " " + station + " " + minute,
+                () -> model.stop(train, station, minute), () -> x.stop(train, station, minute));
+    }
+
+    private void newBox() {
+        int home = random.nextInt(stations);
+        int desk = random.nextInt(stations);
+        int walk = random.nextInt(random.nextBoolean() ? 3 : 15);
+        int walkThere = random.nextInt(random.nextBoolean() ? 3 : 15);
+        int ready = Math.min(1439, model.count(3) - 1 + random.nextInt(horizon) / 2);
+        int due = Math.min(1439, ready + random.nextInt(horizon));
+        ask("box " + home + " " + walk + " " + ready + " " + desk + " " + walkThere + " " + due,
+                () -> model.box(home, walk, ready, desk, walkThere, due),
+                () -> x.box(home, walk, ready, desk, walkThere, due));
+        boxes = model.count(2);
+    }
+
+    private void change() {
+        int kind = random.nextInt(100);
+        if (kind < 22) {
+            ask("plan", model::plan, x::plan);
+        } else if (kind < 40) {
+            int n = random.nextInt(60) == 0 ? -1 + random.nextInt(1500) : random.nextInt(horizon / 8);
+            ask("minutes " + n, () -> model.minutes(n), () -> x.minutes(n));
+        } else if (kind < 50) {
+            int train = random.nextInt(trains + 2) - 1;
+            ask("cancel " + train, () -> model.cancel(train), () -> x.cancel(train));
+        } else if (kind < 75) {
+            int box = someBox();
+            int ready = model.count(3) - 2 + random.nextInt(30);
+            ask("empty " + box + " " + ready, () -> model.empty(box, ready), () -> x.empty(box, ready));
+        } else if (kind < 82) {
+            newBox();
+        } else if (kind < 90) {
+            newTrain();
+        } else if (kind < 96) {
+            newStop(random.nextInt(trains), random.nextInt(stations), random.nextInt(horizon));
+        } else {
+            int days = random.nextInt(3) == 0 ? random.nextInt(34) - 1 : 0;
+            ask("carrier " + days, () -> model.carrier(days), () -> x.carrier(days));
+            carriers = model.count(7);
+        }
+    }
+
+    /** More often than not one that may be told empty, if there is one. */
+    private int someBox() {
+        int box = random.nextInt(boxes + 2) - 1;
+        for (int i = 0; i < boxes && random.nextInt(20) > 0; i++) {
+            if (model.where(i) == 4 && model.of(i, 6) == 0) {
+                return i;
+            }
+        }
+        return box;
+    }
+
+    private void look() {
+        int looks = 3 + random.nextInt(12);
+        for (int i = 0; i < looks; i++) {
+            lookOnce();
+        }
+    }
+
+    private void lookOnce() {
+        int box = random.nextInt(40) == 0 ? boxes : random.nextInt(boxes + 1);
+        int what = random.nextInt(9) - 1;
+        int i = random.nextInt(8) - 1;
+        int train = random.nextInt(trains + 1);
+        int sum = random.nextInt(4) == 0 ? 9999990 + random.nextInt(14) : random.nextInt(3000) - 10;
+        int carrier = random.nextInt(carriers + 1);
+        switch (random.nextInt(8)) {
+            case 0, 1 -> ask("of " + box + " " + what, () -> model.of(box, what), () -> x.of(box, what));
+            case 2 -> ask("leg " + box + " " + i + " " + what % 4,
+                    () -> model.leg(box, i, what % 4), () -> x.leg(box, i, what % 4));
+            case 3 -> ask("load " + train + " " + i, () -> model.load(train, i), () -> x.load(train, i));
+            case 4 -> ask("where " + box, () -> model.where(box), () -> x.where(box));
+            case 5 -> ask("mark " + box, () -> model.mark(box), () -> x.mark(box));
+            case 6 -> ask("share " + carrier + " " + sum,
+                    () -> model.share(carrier, sum), () -> x.share(carrier, sum));
+            default -> ask("count " + what, () -> model.count(what), () -> x.count(what));
+        }
+    }
+}
