@@ -238,16 +238,12 @@ public final class LunchMarks {
 
     private boolean leadByPlan(Trip trip) {
         if (trip.stands()) {
-            return leadFromStand(trip);
+            return network.leadOn(trip, trip.standsAt, Math.max(trip.standsSince, now));
         }
         if (trip.hadWay || trip.ready < now) {
             return false;
         }
         return network.leadOn(trip, trip.from, network.beginning(trip));
-    }
-
-    private boolean leadFromStand(Trip trip) {
-        return network.leadOn(trip, trip.standsAt, Math.max(trip.standsSince, now));
     }
 
     /** All give up their legs ahead of the first one that is led anew: their room is free for it. */
@@ -269,8 +265,7 @@ public final class LunchMarks {
         for (int i = 0; i < boxes.size(); i++) {
             Trip trip = boxes.get(i).current();
             if (trip.takenOff) {
-                trip.takenOff = false;
-                leadFromStand(trip);
+                network.leadOn(trip, trip.standsAt, trip.standsSince);
             }
         }
     }
@@ -532,7 +527,7 @@ public final class LunchMarks {
             stations = 0;
             trains = new ArrayList<Train>();
             earliest = new int[MOST_LEGS + 1][MOST_STATIONS];
-            latest = new int[MOST_LEGS + 1][MOST_STATIONS];
+            latest = new int[MOST_LEGS][MOST_STATIONS];
         }
 
         int addStation(int minutes) {

@@ -5,6 +5,7 @@ import java.util.Random;
 /** Random runs of at most 512 calls, the class against the plain model, with all answers of all promises. */
 public final class ModelTest {
     private static final int RUNS = 4000;
+    private static final int FULL_RUNS = 3;
     private static final int CALLS = 512;
 
     private final Random random;
@@ -28,6 +29,9 @@ public final class ModelTest {
         for (int seed = 0; seed < RUNS && Check.isClean(); seed++) {
             new ModelTest(seed).run();
         }
+        for (int seed = RUNS; seed < RUNS + FULL_RUNS && Check.isClean(); seed++) {
+            new ModelTest(seed).runFull();
+        }
         Check.end();
     }
 
@@ -47,6 +51,37 @@ public final class ModelTest {
         for (int i = 0; i < begun; i++) {
             newBox();
         }
+        while (calls.size() < CALLS && Check.isClean()) {
+            change();
+            look();
+        }
+    }
+
+    /** As much of all as there may be: 10 stations, 16 trains of 10 stops, 60 boxes, 40 carriers. */
+    private void runFull() {
+        horizon = 300;
+        stations = 10;
+        for (int i = 0; i < stations; i++) {
+            int sorting = i;
+            ask("station " + sorting, () -> model.station(sorting), () -> x.station(sorting));
+        }
+        for (trains = 0; trains < 16; trains++) {
+            int train = trains;
+            ask("train", () -> model.train(2), () -> x.train(2));
+            int station = random.nextInt(stations);
+            for (int k = 0; k < 10; k++) {
+                newStop(train, station, train * 10 + k * 25 + random.nextInt(20));
+                station = (station + 1 + random.nextInt(stations - 1)) % stations;
+            }
+        }
+        for (int i = 0; i < 60; i++) {
+            newBox();
+        }
+        for (int i = 0; i < 40; i++) {
+            int days = random.nextInt(32);
+            ask("carrier " + days, () -> model.carrier(days), () -> x.carrier(days));
+        }
+        carriers = 40;
         while (calls.size() < CALLS && Check.isClean()) {
             change();
             look();
