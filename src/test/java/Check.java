@@ -19,7 +19,7 @@ final class Check {
         try {
             return String.valueOf(call.answer());
         } catch (NoSuchElementException e) {
-            return NO_SUCH;
+            return e.getClass() == NoSuchElementException.class ? NO_SUCH : "unwanted " + e;
         } catch (IllegalArgumentException e) {
             return e.getClass() == IllegalArgumentException.class ? ILLEGAL : "unwanted " + e;
         } catch (RuntimeException e) {

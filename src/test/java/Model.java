@@ -6,7 +6,7 @@ import java.util.List;
 import java.util.Map;
 import java.util.NoSuchElementException;
 
-/** The document once more, in the plainest and slowest form: all ways are listed, and nothing is kept that can be counted. */
+/** The document once more, plainest and slowest: all ways are listed, and nothing is kept that can be counted. */
 final class Model {
     private static final int NONE = -1;
 
@@ -311,7 +311,7 @@ final class Model {
     }
 
     int load(int train, int span) {
-        if (span < 0 || span + 1 >= trainAt(train).stops.size()) {
+        if (span < 0 || span >= trainAt(train).stops.size() - 1) {
             throw new NoSuchElementException();
         }
         return onSpan(train, span);

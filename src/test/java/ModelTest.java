@@ -6,6 +6,12 @@ import java.util.Random;
 public final class ModelTest {
     private static final int RUNS = 4000;
     private static final int FULL_RUNS = 3;
+    private static final int WILD_RUNS = 1500;
+    /** Numbers at both sides of all bounds of the document, and at the ends of int. */
+    private static final int[] WILD = {
+        Integer.MIN_VALUE, Integer.MIN_VALUE + 1, -1440, -2, -1, 0, 1, 2, 3, 6, 7, 8, 9, 10, 11, 15, 16, 17, 30, 31, 32, 39,
+        40, 41, 59, 60, 61, 119, 120, 121, 1438, 1439, 1440, 1441, 9999999, 10000000, 10000001, Integer.MAX_VALUE - 1439,
+        Integer.MAX_VALUE - 1, Integer.MAX_VALUE};
     private static final int CALLS = 512;
 
     private final Random random;
@@ -31,6 +37,9 @@ public final class ModelTest {
         }
         for (int seed = RUNS; seed < RUNS + FULL_RUNS && Check.isClean(); seed++) {
             new ModelTest(seed).runFull();
+        }
+        for (int seed = RUNS + FULL_RUNS; seed < RUNS + FULL_RUNS + WILD_RUNS && Check.isClean(); seed++) {
+            new ModelTest(seed).runWild();
         }
         Check.end();
     }
@@ -85,6 +94,57 @@ public final class ModelTest {
         while (calls.size() < CALLS && Check.isClean()) {
             change();
             look();
+        }
+    }
+
+    /** Any call with any numbers in any state: it answers, or throws what the document names. */
+    private void runWild() {
+        while (calls.size() < CALLS && Check.isClean()) {
+            if (random.nextBoolean()) {
+                changeWildly();
+            } else {
+                lookWildly();
+            }
+        }
+    }
+
+    private int wild(int usual) {
+        return random.nextInt(12) == 0 ? WILD[random.nextInt(WILD.length)] : random.nextInt(usual);
+    }
+
+    private void changeWildly() {
+        int a = wild(3);
+        int b = wild(4);
+        int c = wild(5);
+        int d = wild(4);
+        int minute = wild(200);
+        switch (random.nextInt(12)) {
+            case 0 -> ask("station " + a, () -> model.station(a), () -> x.station(a));
+            case 1 -> ask("train " + (a + 1), () -> model.train(a + 1), () -> x.train(a + 1));
+            case 2, 3, 4, 5 -> newStop(a, b, minute);
+            case 6, 7 -> ask("box " + a + " " + b + " " + minute + " " + d + " " + c + " " + minute,
+                    () -> model.box(a, b, minute, d, c, minute), () -> x.box(a, b, minute, d, c, minute));
+            case 8 -> ask("plan", model::plan, x::plan);
+            case 9 -> ask("minutes " + b, () -> model.minutes(b), () -> x.minutes(b));
+            case 10 -> ask("cancel " + a, () -> model.cancel(a), () -> x.cancel(a));
+            default -> ask("carrier " + c, () -> model.carrier(c), () -> x.carrier(c));
+        }
+    }
+
+    private void lookWildly() {
+        int a = wild(4);
+        int b = wild(4);
+        int what = wild(8);
+        int minute = random.nextBoolean() ? wild(200) : model.count(3);
+        switch (random.nextInt(8)) {
+            case 0 -> ask("empty " + a + " " + minute, () -> model.empty(a, minute), () -> x.empty(a, minute));
+            case 1 -> ask("of " + a + " " + what, () -> model.of(a, what), () -> x.of(a, what));
+            case 2 -> ask("leg " + a + " " + b + " " + what, () -> model.leg(a, b, what), () -> x.leg(a, b, what));
+            case 3 -> ask("load " + a + " " + b, () -> model.load(a, b), () -> x.load(a, b));
+            case 4 -> ask("where " + a, () -> model.where(a), () -> x.where(a));
+            case 5 -> ask("mark " + a, () -> model.mark(a), () -> x.mark(a));
+            case 6 -> ask("share " + a + " " + minute, () -> model.share(a, minute), () -> x.share(a, minute));
+            default -> ask("count " + what, () -> model.count(what), () -> x.count(what));
         }
     }
 

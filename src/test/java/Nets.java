@@ -44,4 +44,18 @@ final class Nets {
         }
         return text + " and more";
     }
+
+    /** The loads of a train's spans, in one line, up to the first that there isn't. */
+    static String loads(LunchMarks x, int train) {
+        StringBuilder text = new StringBuilder();
+        for (int i = 0; i < 10; i++) {
+            final int span = i;
+            String load = Check.told(() -> x.load(train, span));
+            if (load.equals(Check.NO_SUCH)) {
+                return text.toString();
+            }
+            text.append(' ').append(load);
+        }
+        return text + " and more";
+    }
 }
