@@ -21,6 +21,7 @@ public final class FaceTest {
 
     public static void main(String[] args) throws IOException {
         theClassHasTheFaceAndNoMore();
+        theFaceIsAsTheDocumentWritesIt();
         noOtherMethodHasAPublicName();
         theSourceKeepsToTheLanguage();
         Check.end();
@@ -51,6 +52,31 @@ public final class FaceTest {
             }
         }
         Check.due("face: NONE", -1, () -> LunchMarks.NONE);
+    }
+
+    /** Types and exceptions, too; of the parameters' names a compiled class knows nothing. */
+    private static void theFaceIsAsTheDocumentWritesIt() throws IOException {
+        Set<String> written = new TreeSet<>();
+        for (String line : Files.readAllLines(Path.of("../shared/DOC.md"))) {
+            if (line.startsWith("    public ") && line.endsWith(";") && line.contains("(")) {
+                written.add(line.strip().replace(";", "").replaceAll("int \\w+(?=[,)])", "int").replace(", ", ","));
+            }
+        }
+        Set<String> compiled = new TreeSet<>();
+        for (Constructor<?> made : LunchMarks.class.getConstructors()) {
+            compiled.add(bare(made.toString()));
+        }
+        for (Method method : LunchMarks.class.getDeclaredMethods()) {
+            if (Modifier.isPublic(method.getModifiers())) {
+                compiled.add(bare(method.toString()));
+            }
+        }
+        Check.due("face: as many as are written", 17, written::size);
+        Check.due("face: as it is written", String.join("; ", written), () -> String.join("; ", compiled));
+    }
+
+    private static String bare(String signature) {
+        return signature.replaceAll("java\\.\\w+\\.", "").replace("LunchMarks.", "");
     }
 
     private static void noOtherMethodHasAPublicName() {
